@@ -1,6 +1,6 @@
 /**
  * A works of a table of words that replicas keep alike, in which the network itself puts requests in order.
- * README.md tells how to use it; the promises in the comments are those of the document.
+ * README.md tells how to use it. Words in capitals are terms of the document.
  */
 public final class OrderedWorks {
     public static final int NONE = -1;
@@ -556,6 +556,7 @@ public final class OrderedWorks {
         return one != null && other != null && one.client == other.client && one.number == other.number;
     }
 
+    /** Made by request() alone, which has looked at client, kind and key: so they are safe as indices. */
     private static final class Request {
         final int client;
         final int number;
@@ -794,7 +795,7 @@ public final class OrderedWorks {
         }
     }
 
-    /** What comes of a log when it is executed: always anew from slot 1 on, as logs change behind POINT and ahead. */
+    /** What comes of a log when it is executed: always anew from slot 1 on, as any slot may become a NOTHING. */
     private static final class Table {
         final int[] words = new int[KEYS];
         final int[] latestNumbers = new int[CLIENTS];

@@ -22,7 +22,13 @@ public final class ProtocolTest {
         acceptance();
         places();
         fullLog();
+        fullLogMerged();
+        heldInAnyOrder();
+        startWhileNormal();
+        inChangeOfTheSameView();
+        oldPoint();
         heardByView();
+        heardFromTheLeaderAlone();
         Check.end();
     }
 
@@ -128,6 +134,7 @@ public final class ProtocolTest {
         Air.deliver(x, Air.LOOKUP, 1, 0);
         Air.deliver(x, Air.FOUND, 0, 1);
         Check.due("FOUND of another slot than the next", x.replica(1, 5), 9);
+        Check.due("is not held", x.replica(1, 7), 0);
     }
 
     private static void gapCommits() {
@@ -205,6 +212,15 @@ public final class ProtocolTest {
         Air.deliver(x, Air.GAP_REPLY, 3, 0);
         Air.deliver(x, Air.GAP_REPLY, 4, 0);
         Check.due("of another slot", x.replica(0, 1), 1);
+        x.deliver(6);
+        x.nudge(0);
+        x.deliver(Air.last(x, Air.GAP_COMMIT, 0, 1));
+        x.deliver(Air.last(x, Air.GAP_REPLY, 1, 0));
+        Check.due("counted anew: one", x.replica(0, 1), 1);
+        x.deliver(7);
+        x.deliver(Air.last(x, Air.GAP_COMMIT, 0, 2));
+        x.deliver(Air.last(x, Air.GAP_REPLY, 2, 0));
+        Check.due("two", x.replica(0, 1), 0);
     }
 
     private static void lookups() {
@@ -373,6 +389,10 @@ public final class ProtocolTest {
         y.suspect(2);
         Air.deliver(y, Air.TURNED, 2, 1);
         Check.due("TURNED makes it turn, count and merge", y.replica(1, 1), 0);
+        OrderedWorks first = three();
+        first.suspect(0);
+        Air.deliver(first, Air.TURNED, 0, 1);
+        Check.due("that of replica 0, too", first.replica(1, 1), 0);
         Check.due("in that view", y.replica(1, 2), 1);
         Check.due("TURN was sent first", y.message(2, 1), Air.TURN);
         Check.due("then START", y.message(4, 1), Air.START);
@@ -753,6 +773,128 @@ public final class ProtocolTest {
         Air.settle(x);
         Check.due("all have 100 by START", x.replica(2, 5), 100);
         Check.due("held no more", x.replica(1, 7), 0);
+    }
+
+    /** The new leader has little itself, and all of 100 entries from another one. */
+    private static void fullLogMerged() {
+        OrderedWorks x = three();
+        x.request(0, 2, 0, 1);
+        for (int i = 0; i < 100; i++) {
+            Air.deliver(x, Air.STAMPED, -1, 2);
+            Air.clear(x);
+            x.again(0);
+        }
+        Air.clear(x);
+        x.suspect(2);
+        Air.deliver(x, Air.TURNED, 2, 1);
+        Check.due("100 entries", x.replica(1, 5), 100);
+        for (int slot = 1; slot <= 100; slot++) {
+            Check.due("a request in slot " + slot, x.entry(1, slot, 0), 1);
+        }
+        Air.deliver(x, Air.START, 1, 0);
+        Check.due("by START", x.entry(0, 100, 0), 1);
+    }
+
+    private static void heldInAnyOrder() {
+        int[][] orders = {{2, 3, 4, 1}, {4, 3, 2, 1}, {3, 2, 4, 1}, {2, 4, 3, 1}, {4, 2, 3, 1}, {3, 4, 2, 1}};
+        for (int[] order : orders) {
+            OrderedWorks x = three();
+            for (int c = 0; c < 4; c++) {
+                x.request(c, 1, c, c);
+            }
+            for (int k : order) {
+                x.deliver(3 * (k - 1) + 2);
+            }
+            is("in order", log(x, 2), "0123");
+        }
+    }
+
+    /** START of a view ahead, to one that is NORMAL, SYNCED and holds something. */
+    private static void startWhileNormal() {
+        OrderedWorks x = three();
+        Air.whole(x, 0, 1, 0, 1);
+        x.sync(0);
+        Air.deliver(x, Air.SYNC, 0, 2);
+        x.request(1, 1, 0, 2);
+        Air.lose(x, Air.STAMPED, -1, 2);
+        x.again(1);
+        Air.deliver(x, Air.STAMPED, -1, 2);
+        Check.due("held", x.replica(2, 7), 1);
+        Check.due("SYNCED", x.replica(2, 10), 1);
+        Air.clear(x);
+        x.suspect(1);
+        x.suspect(0);
+        Air.deliver(x, Air.TURNED, 0, 1);
+        x.tick(7);
+        Air.deliver(x, Air.START, 1, 2);
+        Check.due("held no more", x.replica(2, 7), 0);
+        Check.due("SYNCED 0", x.replica(2, 10), 0);
+        Check.due("NORMAL", x.replica(2, 1), 0);
+        x.tick(8);
+        Check.due("it heard its leader by START", x.replica(2, 1), 0);
+        x.tick(1);
+        Check.due("3 T ago", x.replica(2, 1), 2);
+    }
+
+    /** A leader that is NORMAL already, and one that has not got its START. */
+    private static void inChangeOfTheSameView() {
+        OrderedWorks x = three();
+        x.suspect(0);
+        x.suspect(2);
+        Air.deliver(x, Air.TURNED, 2, 1);
+        Air.clear(x);
+        x.sync(1);
+        Air.deliver(x, Air.SYNC, 1, 0);
+        Check.due("SYNC", Air.count(x, Air.SYNC_REPLY), 0);
+        x.request(0, 1, 0, 1);
+        Air.lose(x, Air.STAMPED, -1, 1);
+        x.again(0);
+        Air.deliver(x, Air.STAMPED, -1, 1);
+        Air.deliver(x, Air.GAP_COMMIT, 1, 0);
+        Check.due("GAP COMMIT", Air.count(x, Air.GAP_REPLY), 0);
+        Check.due("no entry", x.replica(0, 5), 0);
+        Check.due("CHANGE", x.replica(0, 1), 2);
+        x.suspect(2);
+        x.deliver(Air.last(x, Air.TURN, 2, 1));
+        Air.deliver(x, Air.TURNED, 1, 2);
+        Check.due("2 leads (2, 1)", x.replica(2, 1), 0);
+    }
+
+    /** POINT of the view before, though as much is SYNCED in the new one. */
+    private static void oldPoint() {
+        OrderedWorks x = three();
+        Air.whole(x, 0, 1, 0, 1);
+        x.sync(0);
+        Air.deliver(x, Air.SYNC, 0, 1);
+        Air.deliver(x, Air.SYNC_REPLY, 1, 0);
+        int old = Air.number(x, Air.POINT, 0, 2);
+        x.suspect(1);
+        x.suspect(2);
+        Air.deliver(x, Air.TURNED, 2, 1);
+        Air.deliver(x, Air.START, 1, 2);
+        x.sync(1);
+        Air.deliver(x, Air.SYNC, 1, 2);
+        Check.due("SYNCED", x.replica(2, 10), 1);
+        x.deliver(old);
+        Check.due("of another view", x.replica(2, 6), 0);
+    }
+
+    private static void heardFromTheLeaderAlone() {
+        OrderedWorks x = new OrderedWorks(1, 0);
+        x.suspect(1);
+        x.suspect(2);
+        x.suspect(3);
+        x.suspect(4);
+        Air.deliver(x, Air.TURNED, 2, 1);
+        Air.deliver(x, Air.TURNED, 3, 1);
+        Air.deliver(x, Air.START, 1, 3);
+        Air.deliver(x, Air.START, 1, 2);
+        x.tick(8);
+        Air.deliver(x, Air.TURN, 4, 3);
+        Air.deliver(x, Air.TURN, 1, 2);
+        x.tick(1);
+        Check.due("TURN of its view by another one", x.replica(3, 2), 2);
+        Check.due("by its leader", x.replica(2, 2), 1);
     }
 
     /** A message of the leader that tells the view is heard, though nothing else comes of it. */

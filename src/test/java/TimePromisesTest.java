@@ -62,22 +62,28 @@ public final class TimePromisesTest {
             Check.due("no more, as POINT has all", Air.count(x, Air.SYNC), 0);
             Air.settle(x);
         }
-        Air.whole(x, 0, 1, 0, 8);
-        int before = x.about(7);
-        x.sync(0);
-        Air.clear(x);
-        int ticks = 0;
-        while (ticks < 40 && Air.count(x, Air.SYNC) == 0) {
-            x.tick(1);
-            for (int to = 1; to < 3; to++) {
-                if (Air.place(x, Air.PING, 0, to) >= 0) {
-                    Air.deliver(x, Air.PING, 0, to);
-                }
+        OrderedWorks y = new OrderedWorks(0, 0);
+        Air.whole(y, 0, 1, 0, 8);
+        y.tick(1);
+        y.sync(0);
+        Air.clear(y);
+        for (int time = 2; time <= 13; time++) {
+            Check.due("not yet", Air.count(y, Air.SYNC), 0);
+            y.tick(1);
+            if (Air.count(y, Air.PING) > 0) {
+                Air.settle(y);
             }
-            ticks++;
         }
-        Check.yes("sync() counts for the time, too", x.about(7) - before >= 12 && ticks <= 13);
-        Check.due("SYNC by time", Air.count(x, Air.SYNC), 2);
+        Check.due("4 T after sync()", Air.count(y, Air.SYNC), 2);
+        Air.clear(y);
+        for (int time = 14; time <= 25; time++) {
+            Check.due("not yet", Air.count(y, Air.SYNC), 0);
+            y.tick(1);
+            if (Air.count(y, Air.PING) > 0) {
+                Air.settle(y);
+            }
+        }
+        Check.due("4 T after that", Air.count(y, Air.SYNC), 2);
     }
 
     private static void askingAgain() {
