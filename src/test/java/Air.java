@@ -83,6 +83,90 @@ final class Air {
         }
     }
 
+    /** A client's open request is stamped again, or a new one is: ADD 1 to key 0. */
+    static void stamp(OrderedWorks x, int client) {
+        if (x.client(client, 1) == 1) {
+            x.again(client);
+        } else {
+            x.request(client, 2, 0, 1);
+        }
+    }
+
+    /** A stamped request that comes to these replicas, in this order, and is lost on its way to all others. */
+    static void stampTo(OrderedWorks x, int client, int... replicas) {
+        stamp(x, client);
+        int[] numbers = new int[replicas.length];
+        for (int i = 0; i < replicas.length; i++) {
+            numbers[i] = last(x, STAMPED, -1, replicas[i]);
+        }
+        int[] all = new int[count(x)];
+        for (int r = 0; r < all.length; r++) {
+            all[r] = last(x, STAMPED, -1, r);
+        }
+        for (int number : all) {
+            if (!has(numbers, number)) {
+                x.lose(number);
+            }
+        }
+        for (int number : numbers) {
+            x.deliver(number);
+        }
+    }
+
+    /** That many more entries in every log; the request stays open, and nothing lies in the air then. */
+    static void fill(OrderedWorks x, int client, int entries) {
+        for (int i = 0; i < entries; i++) {
+            stamp(x, client);
+            for (int r = 0; r < count(x); r++) {
+                x.deliver(last(x, STAMPED, -1, r));
+            }
+            clear(x);
+        }
+    }
+
+    private static boolean has(int[] numbers, int number) {
+        for (int n : numbers) {
+            if (n == number) {
+                return true;
+            }
+        }
+        return false;
+    }
+
+    /** How many replicas there are. */
+    static int count(OrderedWorks x) {
+        int n = 0;
+        while (n < 20 && x.replica(n, 0) != OrderedWorks.NONE) {
+            n++;
+        }
+        return n;
+    }
+
+    /** One letter a slot: the client's number, or a dash for a NOTHING. */
+    static String log(OrderedWorks x, int r) {
+        StringBuilder text = new StringBuilder();
+        for (int slot = 1; slot <= x.replica(r, 5); slot++) {
+            text.append(x.entry(r, slot, 0) == 0 ? "-" : Integer.toString(x.entry(r, slot, 1)));
+        }
+        return text.toString();
+    }
+
+    /** What lies in the air behind the first ones: KIND, from and to of each. */
+    static String behind(OrderedWorks x, int first) {
+        StringBuilder text = new StringBuilder();
+        for (int k = first; k < x.about(0); k++) {
+            text.append(k == first ? "" : " ").append(x.message(k, 1)).append(':').append(x.message(k, 2));
+            text.append('>').append(x.message(k, 3));
+        }
+        return text.toString();
+    }
+
+    /** L, S and the STATUS of a replica. */
+    static String view(OrderedWorks x, int r) {
+        String[] status = {"NORMAL", "GAP", "CHANGE"};
+        return "(" + x.replica(r, 2) + ", " + x.replica(r, 3) + ") " + status[x.replica(r, 1)];
+    }
+
     /** The numbers that the k-th oldest message tells, behind the KIND, the sender and the receiver. */
     static String tells(OrderedWorks x, int k) {
         x.wire(k);

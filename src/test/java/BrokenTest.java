@@ -1,5 +1,3 @@
-import java.lang.reflect.Field;
-
 /**
  * Promise 32. The rules of the document keep to what was accepted, so broken() answers 0 by them:
  * to see it answer more, entries are taken out of a log from behind the object's back.
@@ -15,23 +13,8 @@ public final class BrokenTest {
         Check.end();
     }
 
-    private static Object field(Object of, String name) {
-        try {
-            Field field = of.getClass().getDeclaredField(name);
-            field.setAccessible(true);
-            return field.get(of);
-        } catch (ReflectiveOperationException e) {
-            throw new IllegalStateException(e);
-        }
-    }
-
-    private static Object[] slots(OrderedWorks x, int replica) {
-        Object[] replicas = (Object[]) field(x, "replicas");
-        return (Object[]) field(field(replicas[replica], "log"), "slots");
-    }
-
     private static void spoil(OrderedWorks x, int replica, int slot) {
-        slots(x, replica)[slot - 1] = null;
+        Behind.slots(x, replica)[slot - 1] = null;
     }
 
     private static OrderedWorks withFour() {
@@ -69,7 +52,7 @@ public final class BrokenTest {
         Check.due("three, and the second's answer is another one", x.broken(), 4);
         Check.due("asking changes nothing", x.broken(), 4);
         OrderedWorks y = withFour();
-        Object[] slots = slots(y, 0);
+        Object[] slots = Behind.slots(y, 0);
         Object third = slots[2];
         slots[2] = slots[3];
         slots[3] = third;

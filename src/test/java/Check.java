@@ -1,7 +1,10 @@
 /** Counts answers that are not as due; a test ends with end(). */
 final class Check {
+    private static final int TOLD_MOST = 40;
     private static long wrong = 0;
     private static long looked = 0;
+    /** The sentence that is tested, told with what is wrong. */
+    private static String sentence = "";
 
     interface Call {
         long answer();
@@ -13,18 +16,33 @@ final class Check {
 
     private Check() { }
 
+    static void of(String words) {
+        sentence = words;
+    }
+
     static void due(String what, long got, long want) {
         looked++;
         if (got != want) {
-            wrong++;
-            if (wrong <= 40) {
-                System.out.println(what + " answered " + got + ", due is " + want);
-            }
+            fault(what + " answered " + got + ", due is " + want);
         }
     }
 
     static void yes(String what, boolean got) {
         due(what, got ? 1 : 0, 1);
+    }
+
+    static void text(String what, String got, String want) {
+        looked++;
+        if (!got.equals(want)) {
+            fault(what + " is \"" + got + "\", due is \"" + want + "\"");
+        }
+    }
+
+    static void fault(String text) {
+        wrong++;
+        if (wrong <= TOLD_MOST) {
+            System.out.println(sentence.isEmpty() ? text : "[" + sentence + "] " + text);
+        }
     }
 
     /** Exactly that class, as the document names it. */
@@ -37,8 +55,7 @@ final class Check {
         }
         looked++;
         if (!got.equals(want.getName())) {
-            wrong++;
-            System.out.println(what + " threw " + got + ", due is " + want.getName());
+            fault(what + " threw " + got + ", due is " + want.getName());
         }
     }
 
